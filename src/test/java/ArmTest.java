@@ -83,6 +83,7 @@ final class ArmTest {
         Due.is("clear() of none", x.clear(), 0);
         x.posture(1, 2, 3);
         x.posture(4, 5, 6);
+        x.leave(0, true);
         x.leave(1, true);
         Due.is("clear()", x.clear(), 2);
         Due.is("count(0)", x.count(0), 0);
@@ -131,6 +132,12 @@ final class ArmTest {
             x.mend();
             Due.is("mended with " + more[t] + " more", x.length(1, 9), due[t]);
         }
+        TrueArms x = Straight.arms(65, 130, 195, 0);
+        Straight.stand(x, 1, 65, 130, 195);
+        x.put(0, 2, 9, x.get(0, 2, 9) + 16);
+        Due.is("16 by 32 and a half more", x.fit(1), 13049);
+        x.mend();
+        Due.is("not yet a half", x.length(1, 9), 130);
     }
 
     private static void mendingCuts() {

@@ -11,6 +11,7 @@ final class MeasuresTest {
         ranks();
         toldOnes();
         fits();
+        fitsOfAnyPostures();
         fitsBeyondLongs();
         misses();
         worstOnes();
@@ -41,6 +42,26 @@ final class MeasuresTest {
         Due.is("y too small", x.measure(0, 0), -10001);
         x.lose(0);
         Due.is("lost again", x.measure(0, 0), -10001);
+        measureOfALaterPosture();
+    }
+
+    private static void measureOfALaterPosture() {
+        int[] values = {9999, 10000, -9999, -10000};
+        for (int item = 0; item < 8; item++) {
+            for (int v : values) {
+                TrueArms x = new TrueArms();
+                x.sheet(0, 2, 8);
+                for (int i = 0; i < 4; i++) {
+                    x.posture(0, 0, 0);
+                }
+                x.put(0, 2, item, v);
+                for (int i = 0; i < 4; i++) {
+                    boolean spoilt = item / 2 == i && Math.abs(v) > 9999;
+                    int due = spoilt ? -10001 : item == 2 * i ? v : 0;
+                    Due.is("measure(" + i + ", 0) with " + v + " at " + item, x.measure(i, 0), due);
+                }
+            }
+        }
     }
 
     private static void measuresOfEachForm() {
@@ -155,9 +176,33 @@ final class MeasuresTest {
         Due.is("fit(2)", x.fit(2), 90000);
         Due.is("fit(3)", x.fit(3), LEAST + 2);
         Due.is("fit(-1)", x.fit(-1), LEAST + 2);
+        x.leave(0, true);
+        x.leave(1, true);
+        Due.is("fit(0) of rank 2", x.fit(0), LEAST + 3);
         x.clear();
         Due.is("fit(0) of nothing", x.fit(0), LEAST + 3);
         Due.is("bad before not", x.fit(3), LEAST + 2);
+    }
+
+    /** Lengths in 65s have whole measures in each posture, so they are found again. */
+    private static void fitsOfAnyPostures() {
+        int[][] turns = {{4, 7, 3}, {12, 35, 1}, {1, 2, 3}, {30, 20, 10}};
+        TrueArms x = new TrueArms();
+        x.length(0, 65);
+        x.length(1, 130);
+        x.length(2, 260);
+        x.sheet(0, 2, 8);
+        for (int i = 0; i < 4; i++) {
+            x.posture(turns[i][0], turns[i][1], turns[i][2]);
+            x.put(0, 2, 2 * i, x.hand(i, 0) / 65);
+            x.put(0, 2, 2 * i + 1, x.hand(i, 1) / 65);
+        }
+        for (int i = 0; i < 4; i++) {
+            Due.is("miss(" + i + ")", x.miss(i), 0);
+        }
+        for (int i = 0; i < 3; i++) {
+            Due.is("fit(" + i + ")", x.fit(i), 6500L << i);
+        }
     }
 
     /** 6500 times D i is about 4 times 10 to the 19 here; each 1 less makes the lengths a twelfth less. */

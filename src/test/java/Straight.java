@@ -14,14 +14,14 @@ final class Straight {
         return x;
     }
 
-    /** Four postures more, with the heading 0 or 9. */
+    /** Four postures more with this heading; for other headings than 0 and 9 the lengths are in 65s. */
     static void stand(TrueArms x, int heading, int first, int second, int third) {
         int[] turns = {0, 0, 0, 18, 18, 0, 18, 18};
         for (int t = 0; t < 4; t++) {
             int i = x.posture(heading, turns[2 * t], turns[2 * t + 1]);
             int along = first + SIGNS[t][1] * second + SIGNS[t][2] * third;
-            x.put(0, 2, 2 * i, heading == 0 ? along : 0);
-            x.put(0, 2, 2 * i + 1, heading == 0 ? 0 : along);
+            x.put(0, 2, 2 * i, x.turn(heading, 0) * along / 65);
+            x.put(0, 2, 2 * i + 1, x.turn(heading, 1) * along / 65);
         }
     }
 }
