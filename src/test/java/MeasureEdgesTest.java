@@ -21,6 +21,7 @@ final class MeasureEdgesTest {
         tableOfTwelveAtMost();
         rankOfEachSize();
         toldOfEachRank();
+        toldOfEveryPostureAlone();
         fitRoundsDown();
         fitOfTheNearestToRank2();
         fitOfTheFarthestMeasures();
@@ -201,6 +202,7 @@ final class MeasureEdgesTest {
         Due.is("eleven of 23 items", x.used(), 11);
         x.sheet(0, 2, 0);
         Due.is("none of no items", x.used(), 0);
+        x.sheet(0, 2, 40);
         x.lose(0);
         Due.is("none of a lost sheet", x.used(), 0);
     }
@@ -267,6 +269,32 @@ final class MeasureEdgesTest {
             Due.is("told(3) of rank " + rank, x.told(3), -2);
             if (rank < 3) {
                 x.posture(turns[rank][0], turns[rank][1], turns[rank][2]);
+            }
+        }
+    }
+
+    /** Of one posture a length is told just if it stands across the other two, and these along one line. */
+    private static void toldOfEveryPostureAlone() {
+        TrueArms names = new TrueArms();
+        int[] c = new int[36];
+        int[] s = new int[36];
+        for (int h = 0; h < 36; h++) {
+            c[h] = names.turn(h, 0);
+            s[h] = names.turn(h, 1);
+        }
+        for (int turns = 0; turns < 46656; turns++) {
+            TrueArms x = new TrueArms();
+            x.sheet(0, 0, 2);
+            x.posture(turns / 1296, turns / 36 % 36, turns % 36);
+            int first = turns / 1296;
+            int second = (first + turns / 36) % 36;
+            int third = (second + turns) % 36;
+            boolean[] along = {c[second] * s[third] == s[second] * c[third], c[first] * s[third] == s[first] * c[third],
+                c[first] * s[second] == s[first] * c[second]};
+            boolean allAlong = along[0] && along[1];
+            Due.is("rank() of turns " + turns, x.rank(), allAlong ? 1 : 2);
+            for (int i = 0; i < 3; i++) {
+                Due.is("told(" + i + ") of turns " + turns, x.told(i), along[i] && !allAlong ? 1 : 0);
             }
         }
     }
