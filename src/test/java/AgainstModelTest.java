@@ -81,7 +81,7 @@ final class AgainstModelTest {
                 same(put, new Object[] {0, 2, 2 * i + what, about}, -1);
             }
         }
-        return 1 + 3 * postures;
+        return 1 + 5 * postures;
     }
 
     private static Method find(List<Method> calls, String name) {
