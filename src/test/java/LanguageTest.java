@@ -8,9 +8,10 @@ import java.util.ArrayList;
 import java.util.List;
 import java.util.Set;
 import java.util.TreeSet;
+import java.util.regex.Matcher;
 import java.util.regex.Pattern;
 
-/** The public face, and those rules of LANGUAGE.md that can be seen in the text. */
+/** The public face, and those rules of LANGUAGE.md that can be seen in the text and in the compiled class. */
 final class LanguageTest {
     private static final String FACE = "answer(int,int)int answers()int best(int)int clear()int copy(int,int,int,int,int)int "
         + "count(int)int digest()long drift(int,int,int,int)int fit(int)long get(int,int,int)int hand(int,int)int "
@@ -23,7 +24,16 @@ final class LanguageTest {
         face();
         constants();
         classesInside();
-        text(Files.readString(Path.of("src/main/java/TrueArms.java")));
+        staticFields(TrueArms.class);
+        for (Class<?> one : TrueArms.class.getDeclaredClasses()) {
+            staticFields(one);
+            methodsOf(one);
+        }
+        methodsOf(TrueArms.class);
+        String source = Files.readString(Path.of("src/main/java/TrueArms.java"));
+        library(source);
+        methodLengths(source);
+        text(source);
         Due.end();
     }
 
@@ -74,16 +84,72 @@ final class LanguageTest {
             int bits = one.getModifiers();
             Due.holds(one + " is static", Modifier.isStatic(bits));
             Due.holds(one + " is not open", !Modifier.isPublic(bits) && !Modifier.isProtected(bits));
-            Due.holds(one + " has some twenty fields at most", one.getDeclaredFields().length <= 20);
-            for (Field f : one.getDeclaredFields()) {
-                boolean still = !Modifier.isStatic(f.getModifiers()) || Modifier.isFinal(f.getModifiers());
-                Due.holds("static " + f + " is final", still);
-            }
         }
     }
 
+    /** Rules 5 and 11: static fields are constants of the kinds that are listed, and some twenty others at most. */
+    private static void staticFields(Class<?> one) {
+        Set<Class<?>> kinds = Set.of(int.class, long.class, boolean.class, char.class, String.class,
+            int[].class, long[].class, char[].class, byte[].class);
+        int own = 0;
+        for (Field f : one.getDeclaredFields()) {
+            if (Modifier.isStatic(f.getModifiers())) {
+                Due.holds("static " + f + " is final", Modifier.isFinal(f.getModifiers()));
+                Due.holds("static " + f + " is of a kind that may be", kinds.contains(f.getType()));
+            } else {
+                own++;
+            }
+        }
+        Due.holds(one + " has some twenty fields at most", own <= 20);
+    }
+
+    /** Rules 1 and 11: names of the face are the face's alone, and a method takes seven parameters at most. */
+    private static void methodsOf(Class<?> one) {
+        for (Method m : one.getDeclaredMethods()) {
+            Due.holds(m + " takes seven parameters at most", m.getParameterCount() <= 7);
+            boolean ofFace = (" " + FACE).contains(" " + m.getName() + "(");
+            Due.holds(m + " has a name of its own", Modifier.isPublic(m.getModifiers()) || !ofFace);
+        }
+    }
+
+    private static String withoutComments(String source) {
+        return source.replaceAll("(?s)/\\*.*?\\*/", "").replaceAll("//[^\n]*", "");
+    }
+
+    /** Rule 4: no more of the library than this. */
+    private static void library(String source) {
+        Set<String> may = Set.of("Math.abs", "Math.max", "Math.min", "Math.floorDiv", "Integer.bitCount", "Arrays.fill",
+            "System.arraycopy");
+        Matcher use = Pattern.compile("\\b(Math|StrictMath|Integer|Long|Arrays|System|Character|Short|Byte|Objects)\\.\\w+")
+            .matcher(withoutComments(source).replace("import java.util.Arrays;", ""));
+        int found = 0;
+        while (use.find()) {
+            Due.holds(use.group() + " is in the list", may.contains(use.group()));
+            found++;
+        }
+        Due.holds("some of the library is used", found > 0);
+    }
+
+    /** Rule 11: from a line that opens a method to the brace that stands as far in as it does. */
+    private static void methodLengths(String source) {
+        String[] lines = source.split("\n");
+        int found = 0;
+        for (int from = 0; from < lines.length; from++) {
+            if (lines[from].matches(" {4,8}(?!if|for|switch)[\\w\\[\\] ]+\\(.*\\) \\{")) {
+                String end = lines[from].replaceAll("\\S.*", "") + "}";
+                int to = from;
+                while (to < lines.length && !lines[to].equals(end)) {
+                    to++;
+                }
+                Due.holds("sixty lines at most: " + lines[from].trim(), to - from < 60);
+                found++;
+            }
+        }
+        Due.holds("the methods are found: " + found, found > 60);
+    }
+
     private static void text(String source) {
-        String code = source.replaceAll("(?s)/\\*.*?\\*/", "").replaceAll("//[^\n]*", "");
+        String code = withoutComments(source);
         String[] never = {"\\bthrow\\b", "\\btry\\b", "\\bcatch\\b", "\\bsynchronized\\b", "\\bassert\\b", "->", "::",
             "\\bpackage\\b", "Exact\\b", "\\bvar\\b", "\\bthrows\\b", "\\bstatic\\s*\\{", "Double", "MIN_VALUE", "MAX_VALUE"};
         for (String word : never) {
